@@ -1,0 +1,91 @@
+import java.io.IOException;
+import java.lang.reflect.Constructor;
+import java.lang.reflect.Field;
+import java.lang.reflect.Method;
+import java.lang.reflect.Modifier;
+import java.nio.file.Files;
+import java.nio.file.Path;
+import java.util.Arrays;
+import java.util.Set;
+import java.util.TreeSet;
+import java.util.regex.Pattern;
+
+/** The public face of the document, and the rules of LANGUAGE.md that a test can look at. */
+public final class FaceTest {
+    private static final Check CHECK = new Check("FaceTest");
+    private static final Set<String> METHODS = Set.of(
+        "boolean online[int, boolean]", "boolean terms[int, int, int, int]", "int open[int, int, int, int]",
+        "int pay[int, int, int, int]", "int route[int, int, int, int]", "int most[int, int]", "boolean close[int]",
+        "boolean renew[int, int, int]", "boolean publish[int, int, int]", "int block[int]", "int party[int, int]",
+        "int channel[int, int]", "int state[int, int, int]", "int lock[int, int, int, int]", "int height[]");
+
+    public static void main(String[] args) throws IOException {
+        constants();
+        methods();
+        fields();
+        words();
+        CHECK.end();
+    }
+
+    private static void constants() {
+        CHECK.due("NONE", ChannelWeb.NONE, -1);
+        CHECK.due("REFUSED", ChannelWeb.REFUSED, -2);
+        CHECK.due("FULL", ChannelWeb.FULL, -3);
+    }
+
+    private static void methods() {
+        CHECK.due("the class's modifiers", ChannelWeb.class.getModifiers(), Modifier.PUBLIC | Modifier.FINAL);
+        CHECK.due("nested classes", ChannelWeb.class.getDeclaredClasses().length, 0);
+        Constructor<?>[] constructors = ChannelWeb.class.getDeclaredConstructors();
+        CHECK.due("constructors", constructors.length, 1);
+        CHECK.due("public constructor without parameters",
+            constructors[0].getParameterCount() == 0 && Modifier.isPublic(constructors[0].getModifiers()), true);
+        Set<String> open = new TreeSet<>();
+        Set<String> openNames = new TreeSet<>();
+        for (Method m : ChannelWeb.class.getDeclaredMethods()) {
+            if (!Modifier.isPrivate(m.getModifiers())) {
+                String[] types = Arrays.stream(m.getParameterTypes()).map(Class::getName).toArray(String[]::new);
+                open.add(m.getReturnType() + " " + m.getName() + Arrays.toString(types));
+                openNames.add(m.getName());
+                CHECK.due(m.getName() + "'s modifiers", m.getModifiers(), Modifier.PUBLIC);
+            }
+            CHECK.due(m.getName() + " takes at most 7", m.getParameterCount() <= 7, true);
+        }
+        CHECK.due("the methods are those of the document", open.equals(METHODS), true);
+        for (Method m : ChannelWeb.class.getDeclaredMethods()) {
+            CHECK.due("private " + m.getName() + " has its own name",
+                !Modifier.isPrivate(m.getModifiers()) || !openNames.contains(m.getName()), true);
+        }
+    }
+
+    private static void fields() {
+        Set<String> open = new TreeSet<>();
+        int ofObject = 0;
+        for (Field f : ChannelWeb.class.getDeclaredFields()) {
+            if (!Modifier.isPrivate(f.getModifiers())) {
+                open.add(f.getName());
+            }
+            if (Modifier.isStatic(f.getModifiers())) {
+                CHECK.due("static " + f.getName() + " is a final number",
+                    Modifier.isFinal(f.getModifiers()) && (f.getType() == int.class || f.getType() == long.class), true);
+            } else {
+                ofObject++;
+            }
+        }
+        CHECK.due("the open fields are the constants", open.equals(Set.of("NONE", "REFUSED", "FULL")), true);
+        CHECK.due("at most forty fields", ofObject <= 40, true);
+    }
+
+    private static void words() throws IOException {
+        String code = Files.readString(Path.of("src/main/java/ChannelWeb.java")).replaceAll("//[^\n]*", "");
+        String[] ruledOut = {"import", "package", "throw", "throws", "try", "catch", "synchronized", "assert", "instanceof",
+            "null", "float", "double", "String", "Math", "Integer", "System", "Arrays", "Object", "enum", "record",
+            "interface", "protected", "->", "::", "\"", "@"};
+        for (String word : ruledOut) {
+            String quoted = Character.isLetter(word.charAt(0)) ? "\\b" + word + "\\b" : Pattern.quote(word);
+            CHECK.due("the code has " + word, Pattern.compile(quoted).matcher(code).find(), false);
+        }
+        String methodsOnly = code.substring(code.indexOf("public ChannelWeb()"));
+        CHECK.due("a method makes something new", Pattern.compile("\\bnew\\b").matcher(methodsOnly).find(), false);
+    }
+}
