@@ -18,14 +18,17 @@ public final class ChannelWeb {
     private static final int SIDES = 2;
     private static final int MOST_LOCKS = 3;
     private static final int LAST_STATE = 11;
-    // The outputs have the shape of a state's locks, so they stand in a row behind the states.
+    // The outputs are a row of locks as a state has one, so they stand in a row behind the states.
     private static final int OUTPUT_ROW = LAST_STATE + 1;
     private static final int ROWS = OUTPUT_ROW + 1;
 
     private static final int ALL_SIDES = CHANNELS * SIDES;
     private static final int ALL_ROWS = CHANNELS * ROWS;
     private static final int ALL_BALANCES = ALL_ROWS * SIDES;
-    private static final int ALL_LOCKS = ALL_ROWS * MOST_LOCKS;
+    private static final int ALL_PLACES = ALL_ROWS * MOST_LOCKS;
+    // A lock never changes, and each secret is used once with at most one lock for each channel
+    // of the route: so a lock's number is secret * MOST_HOPS + place in the route, and rows hold numbers.
+    private static final int ALL_LOCKS = SECRETS * MOST_HOPS;
 
     private static final int OPEN = 0, CLOSED = 1, GONE = 2;
     private static final int LEAVE = 0, SETTLE = 1, FAIL = 2, PUBLISH = 3;
@@ -51,9 +54,9 @@ public final class ChannelWeb {
 
     private final int[] balance = new int[ALL_BALANCES];
     private final int[] lockCount = new int[ALL_ROWS];
+    private final int[] lockIn = new int[ALL_PLACES];
     private final int[] lockFrom = new int[ALL_LOCKS];
     private final int[] lockAmount = new int[ALL_LOCKS];
-    private final int[] lockSecret = new int[ALL_LOCKS];
     private final int[] lockExpiry = new int[ALL_LOCKS];
 
     private final int[] triedChannel = new int[MOST_HOPS];
@@ -276,11 +279,11 @@ public final class ChannelWeb {
         if (j < 0 || j >= lockCount[row]) {
             return NONE;
         }
-        int lock = row * MOST_LOCKS + j;
+        int lock = lockIn[row * MOST_LOCKS + j];
         switch (what) {
             case 0: return lockFrom[lock];
             case 1: return lockAmount[lock];
-            case 2: return lockSecret[lock];
+            case 2: return lock / MOST_HOPS;
             case 3: return lockExpiry[lock];
             default: return NONE;
         }
@@ -306,8 +309,8 @@ public final class ChannelWeb {
         return secret >= 0 && secret < SECRETS && (usedSecrets >> secret & 1) == 0;
     }
 
-    private boolean knowsSecret(int p, int secret) {
-        return (secretsOf[p] >> secret & 1) != 0;
+    private boolean knowsSecretOf(int lock, int p) {
+        return (secretsOf[p] >> (lock / MOST_HOPS) & 1) != 0;
     }
 
     private int sideOf(int c, int p) {
@@ -426,51 +429,41 @@ public final class ChannelWeb {
     }
 
     private void addLock(int hop, int secret) {
-        int c = bestChannel[hop];
-        int row = makeNextState(c);
         int s = bestSide[hop];
-        int lock = row * MOST_LOCKS + lockCount[row];
-        balance[row * SIDES + s] -= bestAmount[hop];
+        int lock = secret * MOST_HOPS + hop;
         lockFrom[lock] = s;
         lockAmount[lock] = bestAmount[hop];
-        lockSecret[lock] = secret;
         lockExpiry[lock] = heightNow + BLOCKS_PER_HOP * (bestLength - hop);
+        int row = makeNextState(bestChannel[hop]);
+        balance[row * SIDES + s] -= bestAmount[hop];
+        lockIn[row * MOST_LOCKS + lockCount[row]] = lock;
         lockCount[row]++;
     }
 
     private int makeNextState(int c) {
-        int row = c * ROWS + latest[c];
-        copyRow(row, row + 1);
-        latest[c]++;
-        return row + 1;
-    }
-
-    private void copyRow(int source, int target) {
+        int old = c * ROWS + latest[c];
+        int row = old + 1;
         for (int s = 0; s < SIDES; s++) {
-            balance[target * SIDES + s] = balance[source * SIDES + s];
+            balance[row * SIDES + s] = balance[old * SIDES + s];
         }
         for (int j = 0; j < MOST_LOCKS; j++) {
-            copyLock(source * MOST_LOCKS + j, target * MOST_LOCKS + j);
+            lockIn[row * MOST_LOCKS + j] = lockIn[old * MOST_LOCKS + j];
         }
-        lockCount[target] = lockCount[source];
-    }
-
-    private void copyLock(int source, int target) {
-        lockFrom[target] = lockFrom[source];
-        lockAmount[target] = lockAmount[source];
-        lockSecret[target] = lockSecret[source];
-        lockExpiry[target] = lockExpiry[source];
+        lockCount[row] = lockCount[old];
+        latest[c]++;
+        return row;
     }
 
     private void removeLock(int row, int j) {
         for (int i = j; i < MOST_LOCKS - 1; i++) {
-            copyLock(row * MOST_LOCKS + i + 1, row * MOST_LOCKS + i);
+            lockIn[row * MOST_LOCKS + i] = lockIn[row * MOST_LOCKS + i + 1];
         }
         lockCount[row]--;
     }
 
     private void putOnChain(int c, int s, int k) {
         int row = c * ROWS + k;
+        int outputs = c * ROWS + OUTPUT_ROW;
         int other = partyAt[c * SIDES + 1 - s];
         status[c] = CLOSED;
         published[c] = k;
@@ -478,7 +471,10 @@ public final class ChannelWeb {
         publishedAt[c] = heightNow;
         held[c] = balance[row * SIDES + s];
         coins[other] += balance[row * SIDES + 1 - s];
-        copyRow(row, c * ROWS + OUTPUT_ROW);
+        for (int j = 0; j < MOST_LOCKS; j++) {
+            lockIn[outputs * MOST_LOCKS + j] = lockIn[row * MOST_LOCKS + j];
+        }
+        lockCount[outputs] = lockCount[row];
     }
 
     private void takeTurn(int p) {
@@ -507,7 +503,7 @@ public final class ChannelWeb {
     private void actOnFirstDue(int c, int s) {
         int row = c * ROWS + latest[c];
         for (int j = 0; j < MOST_LOCKS && j < lockCount[row]; j++) {
-            int due = dueAct(c, s, row * MOST_LOCKS + j);
+            int due = dueAct(c, s, lockIn[row * MOST_LOCKS + j]);
             if (due == PUBLISH) {
                 putOnChain(c, s, latest[c]);
             } else if (due != LEAVE) {
@@ -527,7 +523,7 @@ public final class ChannelWeb {
             }
             return changes ? FAIL : PUBLISH;
         }
-        if (!knowsSecret(partyAt[c * SIDES + s], lockSecret[lock])) {
+        if (!knowsSecretOf(lock, partyAt[c * SIDES + s])) {
             return LEAVE;
         }
         if (changes) {
@@ -538,11 +534,11 @@ public final class ChannelWeb {
 
     private void endLock(int c, int j, int how) {
         int row = makeNextState(c);
-        int lock = row * MOST_LOCKS + j;
+        int lock = lockIn[row * MOST_LOCKS + j];
         int from = lockFrom[lock];
         if (how == SETTLE) {
             balance[row * SIDES + 1 - from] += lockAmount[lock];
-            secretsOf[partyAt[c * SIDES + from]] |= 1 << lockSecret[lock];
+            secretsOf[partyAt[c * SIDES + from]] |= 1 << (lock / MOST_HOPS);
         } else {
             balance[row * SIDES + from] += lockAmount[lock];
         }
@@ -572,7 +568,7 @@ public final class ChannelWeb {
         int row = c * ROWS + OUTPUT_ROW;
         int sum = held[c];
         for (int j = 0; j < MOST_LOCKS && j < lockCount[row]; j++) {
-            sum += lockAmount[row * MOST_LOCKS + j];
+            sum += lockAmount[lockIn[row * MOST_LOCKS + j]];
         }
         coins[partyAt[c * SIDES + 1 - publisherSide[c]]] += sum;
         held[c] = 0;
@@ -584,7 +580,7 @@ public final class ChannelWeb {
         int row = c * ROWS + OUTPUT_ROW;
         int j = 0;
         for (int looked = 0; looked < MOST_LOCKS; looked++) {
-            if (j < lockCount[row] && collects(c, s, row * MOST_LOCKS + j)) {
+            if (j < lockCount[row] && collects(c, s, lockIn[row * MOST_LOCKS + j])) {
                 removeLock(row, j);
             } else {
                 j++;
@@ -594,16 +590,15 @@ public final class ChannelWeb {
 
     private boolean collects(int c, int s, int output) {
         int p = partyAt[c * SIDES + s];
-        int secret = lockSecret[output];
         if (lockFrom[output] == s) {
             if (lockExpiry[output] > heightNow) {
                 return false;
             }
         } else {
-            if (!knowsSecret(p, secret)) {
+            if (!knowsSecretOf(output, p)) {
                 return false;
             }
-            secretsOf[partyAt[c * SIDES + 1 - s]] |= 1 << secret;
+            secretsOf[partyAt[c * SIDES + 1 - s]] |= 1 << (output / MOST_HOPS);
         }
         if (publisherSide[c] == s) {
             held[c] += lockAmount[output];

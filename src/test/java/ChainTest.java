@@ -10,14 +10,18 @@ public final class ChainTest {
         secretGoesBack();
         secretGoesBackInOneBlock();
         eachSettlingIsAChange();
+        threeLocksInOneTurn();
         expiredLockFails();
+        expiredLockOfTheOtherSideFails();
         expiredLockIsPublished();
         receiverPublishesBeforeExpiry();
         lastStateIsPublished();
+        outputsLeaveStatesAlone();
         knownSecretGoesBeforeExpiry();
         otherSideClaimsAndTakesBack();
         claimedSecretGoesOn();
         oldStateIsPunished();
+        allOutputsArePunished();
         publisherClaimsBeforePunishment();
         publisherOfOldStateIsPaidIfNobodyLooks();
         guardPunishes();
@@ -149,6 +153,47 @@ public final class ChainTest {
         CHECK.party(web, 1, 5, 7);
     }
 
+    private static ChannelWeb threeLocks() {
+        ChannelWeb web = new ChannelWeb();
+        web.open(1, 0, 300, 100);
+        web.pay(1, 0, 10, 0);
+        web.pay(1, 0, 20, 1);
+        web.pay(1, 0, 40, 2);
+        return web;
+    }
+
+    private static void threeLocksInOneTurn() {
+        ChannelWeb web = threeLocks();
+        web.block(1);
+        CHECK.state(web, 0, 4, 230, 110, 2);
+        CHECK.state(web, 0, 5, 230, 130, 1);
+        CHECK.state(web, 0, 6, 230, 170, 0);
+        CHECK.channel(web, 0, 3, 6);
+        web = threeLocks();
+        web.publish(1, 0, 3);
+        web.block(1);
+        CHECK.channel(web, 0, 8, 0);
+        CHECK.channel(web, 0, 7, 230);
+        CHECK.party(web, 0, 0, 1070);
+        web = threeLocks();
+        web.online(0, false);
+        web.block(3);
+        CHECK.channel(web, 0, 5, 1);
+        CHECK.channel(web, 0, 7, 300);
+        CHECK.channel(web, 0, 8, 0);
+    }
+
+    private static void expiredLockOfTheOtherSideFails() {
+        ChannelWeb web = new ChannelWeb();
+        web.open(1, 0, 5, 100);
+        web.open(2, 1, 6, 100);
+        web.pay(0, 2, 20, 2);
+        web.online(2, false);
+        web.block(6);
+        CHECK.state(web, 0, 1, 5, 79, 1);
+        CHECK.state(web, 0, 2, 5, 100, 0);
+    }
+
     private static void expiredLockFails() {
         ChannelWeb web = new ChannelWeb();
         web.open(0, 1, 100, 0);
@@ -223,6 +268,33 @@ public final class ChainTest {
         CHECK.channel(web, 0, 5, 1);
         CHECK.channel(web, 0, 7, 360);
         CHECK.party(web, 0, 0, 940);
+        CHECK.channel(web, 0, 8, 0);
+        CHECK.state(web, 0, 10, 250, 350, 0);
+        CHECK.state(web, 0, 11, 240, 350, 1);
+        CHECK.lock(web, 0, 11, 0, 0, 10, 5, 8);
+    }
+
+    private static void outputsLeaveStatesAlone() {
+        ChannelWeb web = new ChannelWeb();
+        web.open(0, 1, 300, 300);
+        web.open(2, 3, 70, 80);
+        for (int s = 0; s < 4; s++) {
+            web.pay(0, 1, 10, s);
+            web.block(1);
+        }
+        for (int s = 4; s < 7; s++) {
+            web.pay(0, 1, 10 * s, s);
+        }
+        CHECK.due("publish state 11", web.publish(0, 0, 11), true);
+        CHECK.channel(web, 0, 8, 3);
+        web.block(1);
+        CHECK.channel(web, 0, 8, 0);
+        CHECK.state(web, 0, 9, 220, 340, 1);
+        CHECK.state(web, 0, 10, 170, 340, 2);
+        CHECK.state(web, 0, 11, 110, 340, 3);
+        CHECK.lock(web, 0, 10, 1, 0, 50, 5, 7);
+        CHECK.lock(web, 0, 11, 2, 0, 60, 6, 7);
+        CHECK.state(web, 1, 0, 70, 80, 0);
     }
 
     private static void knownSecretGoesBeforeExpiry() {
@@ -319,6 +391,23 @@ public final class ChainTest {
         web.block(5);
         CHECK.party(web, 0, 0, 700);
         CHECK.party(web, 1, 0, 1300);
+    }
+
+    private static void allOutputsArePunished() {
+        ChannelWeb web = new ChannelWeb();
+        web.open(1, 0, 300, 100);
+        web.pay(1, 0, 10, 0);
+        web.pay(0, 1, 20, 1);
+        web.pay(1, 0, 40, 2);
+        web.block(1);
+        web.publish(1, 0, 3);
+        CHECK.channel(web, 0, 7, 250);
+        CHECK.channel(web, 0, 8, 3);
+        web.block(1);
+        CHECK.channel(web, 0, 7, 0);
+        CHECK.channel(web, 0, 8, 0);
+        CHECK.party(web, 0, 0, 1300);
+        CHECK.party(web, 1, 0, 700);
     }
 
     private static void publisherClaimsBeforePunishment() {

@@ -9,6 +9,7 @@ public final class ChannelTest {
         closeRefused();
         renew();
         renewLimits();
+        renewAllCoinsThereAre();
         renewDropsOldStates();
         channel();
         statesStay();
@@ -147,6 +148,35 @@ public final class ChannelTest {
         CHECK.same("wrong renew", before, web);
         CHECK.due("renew to the limits", web.renew(0, 700, -100), true);
         CHECK.due("renew to the other limits", web.renew(0, -1000, 1000), true);
+    }
+
+    /** Party 0 wins all coins by punishing the others, as only then 6000 and -6000 can be right. */
+    private static void renewAllCoinsThereAre() {
+        ChannelWeb web = new ChannelWeb();
+        for (int p = 1; p < 6; p++) {
+            int c = web.open(0, p, 1, 1000);
+            web.pay(0, p, 1, p);
+            web.block(1);
+            web.publish(p, c, 0);
+            web.block(1);
+        }
+        CHECK.party(web, 0, 0, 6000);
+        CHECK.due("open", web.open(3, 0, 0, 1), 5);
+        CHECK.due("open", web.open(0, 3, 1, 0), 6);
+        CHECK.due("renew by all the rest", web.renew(5, 0, 5998), true);
+        CHECK.due("renew by more than all", web.renew(5, 0, 1), false);
+        CHECK.due("renew to nothing", web.renew(6, -1, 0), true);
+        CHECK.due("renew by one", web.renew(5, 0, 1), true);
+        CHECK.state(web, 5, 0, 0, 6000, 0);
+        CHECK.due("renew(5, 0, -6001)", web.renew(5, 0, -6001), false);
+        CHECK.due("renew(5, 0, -6000)", web.renew(5, 0, -6000), true);
+        CHECK.party(web, 0, 0, 6000);
+        CHECK.due("renew(6, 6001, 0)", web.renew(6, 6001, 0), false);
+        CHECK.due("renew(6, 6000, 0)", web.renew(6, 6000, 0), true);
+        CHECK.due("renew(6, -6000, 0)", web.renew(6, -6000, 0), true);
+        CHECK.due("renew(5, 0, 6000)", web.renew(5, 0, 6000), true);
+        CHECK.state(web, 5, 0, 0, 6000, 0);
+        CHECK.state(web, 6, 0, 0, 0, 0);
     }
 
     private static void renewDropsOldStates() {
