@@ -1,530 +1,295 @@
-/** Promises 10 (publish), 11 (block), and 17 where it tells of them. */
+/** What lies on the chain: the section 'Terms' where it tells of publishing, claiming, taking back and punishing, and promise 10. */
 public final class ChainTest {
-    private static final Check CHECK = new Check("ChainTest");
+    private static final Sentences DOC = new Sentences("ChainTest");
 
     public static void main(String[] args) {
+        toPublish();
+        toPublishAnOldState();
+        whatOnesGet();
+        toClaim();
+        toTakeBack();
+        toPunish();
         publish();
         publishRefused();
-        heldForThreeBlocks();
-        blockNumbers();
-        secretGoesBack();
-        secretGoesBackInOneBlock();
-        eachSettlingIsAChange();
-        threeLocksInOneTurn();
-        expiredLockFails();
-        expiredLockOfTheOtherSideFails();
-        expiredLockIsPublished();
-        receiverPublishesBeforeExpiry();
-        lastStateIsPublished();
-        outputsLeaveStatesAlone();
-        knownSecretGoesBeforeExpiry();
-        otherSideClaimsAndTakesBack();
-        claimedSecretGoesOn();
-        oldStateIsPunished();
-        allOutputsArePunished();
-        publisherClaimsBeforePunishment();
-        publisherOfOldStateIsPaidIfNobodyLooks();
-        guardPunishes();
-        guardPerChannel();
-        guardsThatDoNothing();
-        guardWhoCheated();
-        CHECK.end();
+        DOC.end();
+    }
+
+    private static void toPublish() {
+        DOC.says("Terms", "it is CLOSED from then on; the one who does it is its PUBLISHER; "
+            + "that one's balance in the state is HELD; the other one gets its own in COINS", """
+            open(0, 1, 300, 100) = 0
+            publish(0, 0, 0) = true
+            channel(0, *) = 1 0 1 0 0 0 0 300 0
+            party(0, *) = 700 1 1 0 NONE 0 300
+            party(1, *) = 1000 1 1 0 NONE 0 0
+            """, """
+            open(0, 1, 300, 100) = 0
+            publish(1, 0, 0) = true
+            channel(0, *) = 1 0 1 0 0 1 0 100 0
+            party(0, *) = 1000 1 1 0 NONE 0 0
+            party(1, *) = 900 1 1 0 NONE 0 100
+            """, """
+            open(0, 1, 300, 0) = 0
+            publish(0, 0, 0) = true
+            channel(0, 7) = 300
+            party(1, 0) = 1000
+            block(20) = 20
+            channel(0, *) = 1 0 1 0 0 0 0 0 0
+            """, """
+            open(0, 1, 300, 0) = 0
+            publish(1, 0, 0) = true
+            channel(0, 7) = 0
+            party(0|1, 0) = 1000
+            block(20) = 20
+            channel(0, *) = 1 0 1 0 0 1 0 0 0
+            party(0|1, 0) = 1000
+            """);
+        DOC.says("Terms", "the locks of the state are OUTPUTS, in their order", """
+            open(0, 1, 300, 100) = 0
+            pay(0, 1, 50, 0) = 50
+            pay(1, 0, 7, 1) = 7
+            pay(0, 1, 30, 2) = 30
+            lock(0, -1, 0, 0|1|2|3) = NONE
+            publish(0, 0, 3) = true
+            channel(0, *) = 1 0 1 3 3 0 0 220 3
+            lock(0, -1, 0, *) = 0 50 0 3
+            lock(0, -1, 1, *) = 1 7 1 3
+            lock(0, -1, 2, *) = 0 30 2 3
+            lock(0, -1, 3, 0|1|2|3) = NONE
+            party(0, 0) = 700
+            party(1, 0) = 993
+            """);
+    }
+
+    private static void toPublishAnOldState() {
+        DOC.says("Terms", "TO PUBLISH a state of an OPEN channel", """
+            open(0, 1, 300, 100) = 0
+            pay(0, 1, 50, 0) = 50
+            pay(0, 1, 30, 2) = 30
+            publish(1, 0, 1) = true
+            channel(0, *) = 1 0 1 2 1 1 0 100 1
+            lock(0, -1, 0, *) = 0 50 0 3
+            lock(0, -1, 1, 0|1|2|3) = NONE
+            party(0, 0) = 950
+            party(1, 0) = 900
+            """, """
+            open(0, 1, 300, 100) = 0
+            pay(0, 1, 50, 0) = 50
+            block(1) = 1
+            publish(0, 0, 0) = true
+            channel(0, *) = 1 0 1 2 0 0 1 300 0
+            party(1, 0) = 1000
+            """, "open(0, 1, 300, 300) = 0\n" + Sentences.settled(0, 1, 5) + """
+            pay(0, 1, 10, 5) = 10
+            publish(1, 0, 11) = true
+            channel(0, *) = 1 0 1 11 11 1 5 350 1
+            party(0, 0) = 940
+            """);
+    }
+
+    private static void whatOnesGet() {
+        DOC.says("Terms", "What the PUBLISHER gets from a CLOSED channel comes to what is HELD, what the other one gets to COINS.", """
+            open(0, 1, 100, 100) = 0
+            pay(0, 1, 20, 2) = 20
+            pay(1, 0, 7, 3) = 7
+            pay(0, 1, 30, 4) = 30
+            publish(0, 0, 3) = true
+            channel(0, 7) = 50
+            party(0, 0) = 900
+            party(1, 0) = 993
+            block(1) = 1
+            channel(0, *) = 1 0 1 3 3 0 0 57 0
+            party(0, 0) = 900
+            party(0, 6) = 57
+            party(1, 0) = 1043
+            block(2) = 3
+            channel(0, 7) = 0
+            party(0, 0) = 957
+            party(1, 0) = 1043
+            """, """
+            open(0, 1, 100, 100) = 0
+            pay(0, 1, 20, 2) = 20
+            pay(1, 0, 7, 3) = 7
+            publish(1, 0, 2) = true
+            block(1) = 1
+            channel(0, *) = 1 0 1 2 2 1 0 113 0
+            party(0, 0) = 987
+            party(1, 0) = 900
+            """);
+    }
+
+    private static void toClaim() {
+        DOC.says("Terms", "To CLAIM an output: the party that it is to gets the amount, the one that it is from KNOWS the secret.", """
+            open(0, 1, 100, 100) = 0
+            pay(0, 1, 20, 2) = 20
+            pay(1, 0, 7, 15) = 7
+            publish(0, 0, 2) = true
+            party(0, 5) = 32768
+            party(1, 5) = 4
+            block(1) = 1
+            party(0|1, 5) = 32772
+            channel(0, *) = 1 0 1 2 2 0 0 87 0
+            party(1, 0) = 1013
+            """, """
+            open(0, 1, 100, 0) = 0
+            open(1, 2, 100, 0) = 1
+            pay(0, 2, 20, 6) = 21
+            publish(1, 1, 1) = true
+            publish(1, 0, 1) = true
+            block(1) = 1
+            channel(1, 8) = 0
+            party(2, 0) = 1020
+            party(1, 5) = 64
+            channel(0, 8) = 1
+            party(0, 5) = 0
+            block(1) = 2
+            channel(0, *) = 1 0 1 1 1 1 0 21 0
+            party(0, 5) = 64
+            block(1) = 3
+            party(1, 0) = 1001
+            """);
+    }
+
+    private static void toTakeBack() {
+        DOC.says("Terms", "To TAKE one BACK: the party that it is from gets it.", """
+            open(0, 1, 100, 100) = 0
+            pay(0, 1, 7, 3) = 7
+            online(1, false) = true
+            block(1) = 1
+            publish(0, 0, 1) = true
+            channel(0, *) = 1 0 1 1 1 0 1 93 1
+            block(1) = 2
+            channel(0, *) = 1 0 1 1 1 0 1 93 1
+            block(1) = 3
+            channel(0, *) = 1 0 1 1 1 0 1 100 0
+            party(0, 0) = 900
+            party(0, 5) = 0
+            block(1) = 4
+            party(0, 0) = 1000
+            """, """
+            open(0, 1, 100, 100) = 0
+            pay(1, 0, 7, 3) = 7
+            online(0, false) = true
+            publish(0, 0, 1) = true
+            block(2) = 2
+            party(1, 0) = 993
+            lock(0, -1, 0, *) = 1 7 3 3
+            block(1) = 3
+            party(1, 0) = 1000
+            party(1, 5) = 0
+            channel(0, *) = 1 0 1 1 1 0 0 100 0
+            """);
+    }
+
+    private static void toPunish() {
+        DOC.says("Terms", "To PUNISH: the other one gets what is HELD and all outputs; nothing is HELD, and there are no outputs then.", """
+            open(1, 0, 300, 100) = 0
+            pay(1, 0, 10, 0) = 10
+            pay(0, 1, 20, 1) = 20
+            pay(1, 0, 40, 2) = 40
+            block(1) = 1
+            publish(1, 0, 3) = true
+            channel(0, *) = 1 1 0 6 3 1 1 250 3
+            party(0, 0) = 980
+            block(1) = 2
+            channel(0, *) = 1 1 0 6 3 1 1 0 0
+            lock(0, -1, 0|1|2, 0|1|2|3) = NONE
+            party(0, 0) = 1300
+            party(1, 0) = 700
+            block(20) = 22
+            party(0, 0) = 1300
+            party(1, 0) = 700
+            """, """
+            open(0, 1, 50, 0) = 0
+            pay(0, 1, 50, 0) = 50
+            block(1) = 1
+            publish(0, 0, 1) = true
+            channel(0, *) = 1 0 1 2 1 0 1 0 1
+            block(1) = 2
+            channel(0, *) = 1 0 1 2 1 0 1 0 0
+            party(0, 0) = 950
+            party(1, 0) = 1050
+            """, """
+            open(0, 1, 300, 100) = 0
+            pay(0, 1, 50, 0) = 50
+            block(1) = 1
+            publish(1, 0, 0) = true
+            block(1) = 2
+            channel(0, *) = 1 0 1 2 0 1 1 0 0
+            party(0, 0) = 1100
+            party(1, 0) = 900
+            """, """
+            open(0, 1, 300, 100) = 0
+            pay(1, 0, 40, 0) = 40
+            pay(1, 0, 30, 1) = 30
+            online(1, false) = true
+            publish(0, 0, 1) = true
+            block(1) = 1
+            channel(0, *) = 1 0 1 2 1 0 0 340 0
+            party(1, 5) = 1
+            online(1, true) = true
+            block(1) = 2
+            channel(0, *) = 1 0 1 2 1 0 0 0 0
+            party(0, 0) = 700
+            party(1, 0) = 1300
+            """);
     }
 
     private static void publish() {
-        ChannelWeb web = new ChannelWeb();
-        web.open(3, 1, 300, 100);
-        web.pay(3, 1, 50, 0);
-        web.pay(1, 3, 20, 1);
-        web.online(3, false);
-        web.online(1, false);
-        web.block(5);
-        CHECK.due("publish while both are offline", web.publish(1, 0, 2), true);
-        int[] closed = {1, 3, 1, 2, 2, 1, 5, 80, 2};
-        for (int what = 0; what < closed.length; what++) {
-            CHECK.channel(web, 0, what, closed[what]);
-        }
-        CHECK.party(web, 3, 0, 950);
-        CHECK.party(web, 1, 0, 900);
-        CHECK.lock(web, 0, -1, 0, 0, 50, 0, 3);
-        CHECK.lock(web, 0, -1, 1, 1, 20, 1, 3);
-        web.block(3);
-        CHECK.channel(web, 0, 7, 80);
-        CHECK.channel(web, 0, 8, 2);
+        DOC.says("Promise 10", "A party PUBLISHES state k of an OPEN channel that it has a side of", """
+            open(3, 1, 300, 100) = 0
+            pay(3, 1, 50, 0) = 50
+            publish(3, 0, 0) = true
+            channel(0, *) = 1 3 1 1 0 3 0 300 0
+            """, """
+            open(3, 1, 300, 100) = 0
+            pay(3, 1, 50, 0) = 50
+            publish(3, 0, 1) = true
+            channel(0, *) = 1 3 1 1 1 3 0 250 1
+            """, """
+            open(3, 1, 300, 100) = 0
+            block(4) = 4
+            pay(3, 1, 50, 0) = 50
+            publish(1, 0, 1) = true
+            channel(0, *) = 1 3 1 1 1 1 4 100 1
+            party(3, 0) = 950
+            """, """
+            open(0, 1, 1, 1) = 0
+            open(0, 1, 2, 2) = 1
+            open(0, 1, 3, 3) = 2
+            open(0, 1, 4, 4) = 3
+            open(0, 1, 5, 5) = 4
+            open(0, 1, 6, 6) = 5
+            open(0, 1, 7, 7) = 6
+            open(0, 1, 8, 9) = 7
+            publish(1, 7, 0) = true
+            channel(7, *) = 1 0 1 0 0 1 0 9 0
+            channel(0|6, 0) = 0
+            publish(1, 0, 0) = true
+            channel(0, *) = 1 0 1 0 0 1 0 1 0
+            """);
     }
 
     private static void publishRefused() {
-        ChannelWeb web = new ChannelWeb();
-        web.open(0, 1, 300, 100);
-        web.open(1, 2, 300, 100);
-        web.open(3, 4, 10, 10);
-        web.pay(0, 1, 5, 0);
-        web.publish(1, 1, 0);
-        web.close(2);
-        String before = Check.view(web);
-        int[][] wrong = {{2, 0, 0}, {-1, 0, 0}, {6, 0, 0}, {0, 0, -1}, {0, 0, 2}, {0, 0, 12}, {0, 3, 0}, {0, -1, 0}, {0, 8, 0},
-            {1, 1, 0}, {2, 1, 0}, {3, 2, 0}, {0, 0, Integer.MIN_VALUE}, {0, 0, Integer.MAX_VALUE}, {0, Integer.MIN_VALUE, 0},
-            {0, Integer.MAX_VALUE, 0}, {Integer.MIN_VALUE, 0, 0}, {Integer.MAX_VALUE, 0, 0}};
-        for (int[] b : wrong) {
-            CHECK.due("wrong publish", web.publish(b[0], b[1], b[2]), false);
-        }
-        CHECK.same("wrong publish", before, web);
-    }
-
-    private static void heldForThreeBlocks() {
-        ChannelWeb web = new ChannelWeb();
-        web.open(0, 1, 300, 100);
-        web.block(4);
-        web.publish(0, 0, 0);
-        CHECK.party(web, 1, 0, 1000);
-        web.block(2);
-        CHECK.channel(web, 0, 7, 300);
-        CHECK.party(web, 0, 0, 700);
-        web.block(1);
-        CHECK.channel(web, 0, 7, 0);
-        CHECK.channel(web, 0, 0, 1);
-        CHECK.channel(web, 0, 6, 4);
-        CHECK.party(web, 0, 0, 1000);
-        web.block(20);
-        CHECK.party(web, 0, 0, 1000);
-        CHECK.party(web, 1, 0, 1000);
-    }
-
-    private static void blockNumbers() {
-        ChannelWeb web = new ChannelWeb();
-        web.open(0, 1, 300, 100);
-        web.pay(0, 1, 5, 0);
-        String before = Check.view(web);
-        for (int n : new int[] {0, 21, -1, Integer.MIN_VALUE, Integer.MAX_VALUE}) {
-            CHECK.due("block(" + n + ")", web.block(n), ChannelWeb.REFUSED);
-        }
-        CHECK.same("refused block", before, web);
-        CHECK.due("block(1)", web.block(1), 1);
-        CHECK.due("block(20)", web.block(20), 21);
-        CHECK.due("height", web.height(), 21);
-    }
-
-    private static void secretGoesBack() {
-        ChannelWeb web = new ChannelWeb();
-        web.open(0, 1, 300, 100);
-        web.open(1, 2, 200, 50);
-        web.pay(0, 2, 20, 3);
-        web.block(1);
-        CHECK.state(web, 1, 2, 180, 70, 0);
-        CHECK.channel(web, 0, 3, 1);
-        CHECK.party(web, 1, 5, 8);
-        CHECK.party(web, 0, 5, 0);
-        web.block(1);
-        CHECK.state(web, 0, 2, 279, 121, 0);
-        CHECK.party(web, 0, 5, 8);
-        web.block(1);
-        CHECK.channel(web, 0, 3, 2);
-        CHECK.channel(web, 1, 3, 2);
-    }
-
-    private static void secretGoesBackInOneBlock() {
-        ChannelWeb web = new ChannelWeb();
-        web.open(2, 1, 300, 100);
-        web.open(1, 0, 200, 50);
-        web.pay(2, 0, 20, 3);
-        web.block(1);
-        CHECK.state(web, 1, 2, 180, 70, 0);
-        CHECK.state(web, 0, 2, 279, 121, 0);
-        CHECK.party(web, 2, 5, 8);
-    }
-
-    private static void eachSettlingIsAChange() {
-        ChannelWeb web = new ChannelWeb();
-        web.open(0, 1, 300, 100);
-        web.pay(0, 1, 50, 0);
-        web.pay(1, 0, 7, 1);
-        web.pay(0, 1, 30, 2);
-        web.block(1);
-        CHECK.channel(web, 0, 3, 6);
-        CHECK.state(web, 0, 3, 220, 93, 3);
-        CHECK.state(web, 0, 4, 227, 93, 2);
-        CHECK.lock(web, 0, 4, 0, 0, 50, 0, 3);
-        CHECK.lock(web, 0, 4, 1, 0, 30, 2, 3);
-        CHECK.noLock(web, 0, 4, 2);
-        CHECK.state(web, 0, 5, 227, 143, 1);
-        CHECK.lock(web, 0, 5, 0, 0, 30, 2, 3);
-        CHECK.state(web, 0, 6, 227, 173, 0);
-        CHECK.party(web, 0, 5, 7);
-        CHECK.party(web, 1, 5, 7);
-    }
-
-    private static ChannelWeb threeLocks() {
-        ChannelWeb web = new ChannelWeb();
-        web.open(1, 0, 300, 100);
-        web.pay(1, 0, 10, 0);
-        web.pay(1, 0, 20, 1);
-        web.pay(1, 0, 40, 2);
-        return web;
-    }
-
-    private static void threeLocksInOneTurn() {
-        ChannelWeb web = threeLocks();
-        web.block(1);
-        CHECK.state(web, 0, 4, 230, 110, 2);
-        CHECK.state(web, 0, 5, 230, 130, 1);
-        CHECK.state(web, 0, 6, 230, 170, 0);
-        CHECK.channel(web, 0, 3, 6);
-        web = threeLocks();
-        web.publish(1, 0, 3);
-        web.block(1);
-        CHECK.channel(web, 0, 8, 0);
-        CHECK.channel(web, 0, 7, 230);
-        CHECK.party(web, 0, 0, 1070);
-        web = threeLocks();
-        web.online(0, false);
-        web.block(3);
-        CHECK.channel(web, 0, 5, 1);
-        CHECK.channel(web, 0, 7, 300);
-        CHECK.channel(web, 0, 8, 0);
-    }
-
-    private static void expiredLockOfTheOtherSideFails() {
-        ChannelWeb web = new ChannelWeb();
-        web.open(1, 0, 5, 100);
-        web.open(2, 1, 6, 100);
-        web.pay(0, 2, 20, 2);
-        web.online(2, false);
-        web.block(6);
-        CHECK.state(web, 0, 1, 5, 79, 1);
-        CHECK.state(web, 0, 2, 5, 100, 0);
-    }
-
-    private static void expiredLockFails() {
-        ChannelWeb web = new ChannelWeb();
-        web.open(0, 1, 100, 0);
-        web.open(1, 2, 100, 0);
-        web.pay(0, 2, 20, 2);
-        web.online(2, false);
-        web.block(5);
-        CHECK.channel(web, 0, 3, 1);
-        web.block(1);
-        CHECK.channel(web, 0, 0, 0);
-        CHECK.state(web, 0, 1, 79, 0, 1);
-        CHECK.state(web, 0, 2, 100, 0, 0);
-        CHECK.party(web, 0, 5, 0);
-        CHECK.party(web, 1, 5, 0);
-        web.block(1);
-        CHECK.channel(web, 0, 3, 2);
-    }
-
-    private static void expiredLockIsPublished() {
-        ChannelWeb web = new ChannelWeb();
-        web.open(1, 2, 100, 10);
-        web.pay(1, 2, 20, 2);
-        web.online(2, false);
-        web.block(2);
-        CHECK.channel(web, 0, 0, 0);
-        web.block(1);
-        int[] closed = {1, 1, 2, 1, 1, 1, 3, 100, 0};
-        for (int what = 0; what < closed.length; what++) {
-            CHECK.channel(web, 0, what, closed[what]);
-        }
-        CHECK.party(web, 2, 0, 1000);
-        web.block(2);
-        CHECK.party(web, 1, 0, 900);
-        web.block(1);
-        CHECK.party(web, 1, 0, 1000);
-    }
-
-    private static void receiverPublishesBeforeExpiry() {
-        ChannelWeb web = new ChannelWeb();
-        web.open(0, 1, 100, 10);
-        web.pay(0, 1, 20, 2);
-        web.online(0, false);
-        web.block(1);
-        CHECK.channel(web, 0, 0, 0);
-        web.block(1);
-        int[] closed = {1, 0, 1, 1, 1, 1, 2, 30, 0};
-        for (int what = 0; what < closed.length; what++) {
-            CHECK.channel(web, 0, what, closed[what]);
-        }
-        CHECK.party(web, 0, 0, 980);
-        CHECK.party(web, 0, 5, 4);
-        CHECK.party(web, 1, 0, 990);
-        web.block(3);
-        CHECK.party(web, 1, 0, 1020);
-    }
-
-    private static void lastStateIsPublished() {
-        ChannelWeb web = new ChannelWeb();
-        web.open(0, 1, 300, 300);
-        for (int s = 0; s < 5; s++) {
-            web.pay(0, 1, 10, s);
-            web.block(1);
-        }
-        web.pay(0, 1, 10, 5);
-        CHECK.channel(web, 0, 3, 11);
-        web.block(1);
-        CHECK.channel(web, 0, 0, 0);
-        web.block(1);
-        CHECK.channel(web, 0, 0, 1);
-        CHECK.channel(web, 0, 3, 11);
-        CHECK.channel(web, 0, 4, 11);
-        CHECK.channel(web, 0, 5, 1);
-        CHECK.channel(web, 0, 7, 360);
-        CHECK.party(web, 0, 0, 940);
-        CHECK.channel(web, 0, 8, 0);
-        CHECK.state(web, 0, 10, 250, 350, 0);
-        CHECK.state(web, 0, 11, 240, 350, 1);
-        CHECK.lock(web, 0, 11, 0, 0, 10, 5, 8);
-    }
-
-    private static void outputsLeaveStatesAlone() {
-        ChannelWeb web = new ChannelWeb();
-        web.open(0, 1, 300, 300);
-        web.open(2, 3, 70, 80);
-        for (int s = 0; s < 4; s++) {
-            web.pay(0, 1, 10, s);
-            web.block(1);
-        }
-        for (int s = 4; s < 7; s++) {
-            web.pay(0, 1, 10 * s, s);
-        }
-        CHECK.due("publish state 11", web.publish(0, 0, 11), true);
-        CHECK.channel(web, 0, 8, 3);
-        web.block(1);
-        CHECK.channel(web, 0, 8, 0);
-        CHECK.state(web, 0, 9, 220, 340, 1);
-        CHECK.state(web, 0, 10, 170, 340, 2);
-        CHECK.state(web, 0, 11, 110, 340, 3);
-        CHECK.lock(web, 0, 10, 1, 0, 50, 5, 7);
-        CHECK.lock(web, 0, 11, 2, 0, 60, 6, 7);
-        CHECK.state(web, 1, 0, 70, 80, 0);
-    }
-
-    private static void knownSecretGoesBeforeExpiry() {
-        ChannelWeb web = new ChannelWeb();
-        web.open(1, 0, 100, 10);
-        web.pay(1, 0, 20, 2);
-        web.online(0, false);
-        web.online(1, false);
-        web.block(9);
-        web.online(0, true);
-        web.online(1, true);
-        web.block(1);
-        CHECK.state(web, 0, 2, 80, 30, 0);
-        CHECK.channel(web, 0, 0, 0);
-        web = new ChannelWeb();
-        web.open(0, 1, 100, 10);
-        web.pay(0, 1, 20, 2);
-        web.online(0, false);
-        web.online(1, false);
-        web.block(9);
-        web.online(0, true);
-        web.online(1, true);
-        web.block(1);
-        CHECK.state(web, 0, 2, 100, 10, 0);
-    }
-
-    private static void otherSideClaimsAndTakesBack() {
-        ChannelWeb web = new ChannelWeb();
-        web.open(0, 1, 100, 100);
-        web.pay(0, 1, 20, 2);
-        web.pay(1, 0, 7, 3);
-        web.pay(0, 1, 30, 4);
-        web.publish(0, 0, 3);
-        CHECK.channel(web, 0, 8, 3);
-        CHECK.party(web, 1, 0, 993);
-        web.block(1);
-        CHECK.channel(web, 0, 8, 0);
-        CHECK.channel(web, 0, 7, 57);
-        CHECK.party(web, 1, 0, 1043);
-        CHECK.party(web, 0, 5, 28);
-        CHECK.party(web, 1, 5, 28);
-        web = new ChannelWeb();
-        web.open(0, 1, 100, 100);
-        web.pay(1, 0, 7, 3);
-        web.online(0, false);
-        web.publish(0, 0, 1);
-        web.block(2);
-        CHECK.party(web, 1, 0, 993);
-        CHECK.lock(web, 0, -1, 0, 1, 7, 3, 3);
-        web.block(1);
-        CHECK.party(web, 1, 0, 1000);
-        CHECK.channel(web, 0, 8, 0);
-        CHECK.channel(web, 0, 7, 100);
-    }
-
-    private static void claimedSecretGoesOn() {
-        ChannelWeb web = new ChannelWeb();
-        web.open(0, 1, 100, 0);
-        web.open(1, 2, 100, 0);
-        web.pay(0, 2, 20, 6);
-        web.publish(1, 1, 1);
-        web.publish(1, 0, 1);
-        web.block(1);
-        CHECK.channel(web, 1, 8, 0);
-        CHECK.party(web, 2, 0, 1020);
-        CHECK.party(web, 1, 5, 64);
-        CHECK.channel(web, 0, 8, 1);
-        web.block(1);
-        CHECK.channel(web, 0, 8, 0);
-        CHECK.channel(web, 0, 7, 21);
-        CHECK.party(web, 0, 5, 64);
-        web.block(1);
-        CHECK.party(web, 1, 0, 1001);
-    }
-
-    private static void oldStateIsPunished() {
-        ChannelWeb web = new ChannelWeb();
-        web.open(0, 1, 300, 100);
-        web.pay(0, 1, 50, 0);
-        web.block(1);
-        web.publish(0, 0, 1);
-        CHECK.channel(web, 0, 7, 250);
-        CHECK.channel(web, 0, 8, 1);
-        CHECK.party(web, 1, 0, 1000);
-        web.block(1);
-        int[] closed = {1, 0, 1, 2, 1, 0, 1, 0, 0};
-        for (int what = 0; what < closed.length; what++) {
-            CHECK.channel(web, 0, what, closed[what]);
-        }
-        CHECK.party(web, 0, 0, 700);
-        CHECK.party(web, 1, 0, 1300);
-        CHECK.noLock(web, 0, -1, 0);
-        CHECK.state(web, 0, 1, 250, 100, 1);
-        web.block(5);
-        CHECK.party(web, 0, 0, 700);
-        CHECK.party(web, 1, 0, 1300);
-    }
-
-    private static void allOutputsArePunished() {
-        ChannelWeb web = new ChannelWeb();
-        web.open(1, 0, 300, 100);
-        web.pay(1, 0, 10, 0);
-        web.pay(0, 1, 20, 1);
-        web.pay(1, 0, 40, 2);
-        web.block(1);
-        web.publish(1, 0, 3);
-        CHECK.channel(web, 0, 7, 250);
-        CHECK.channel(web, 0, 8, 3);
-        web.block(1);
-        CHECK.channel(web, 0, 7, 0);
-        CHECK.channel(web, 0, 8, 0);
-        CHECK.party(web, 0, 0, 1300);
-        CHECK.party(web, 1, 0, 700);
-    }
-
-    private static void publisherClaimsBeforePunishment() {
-        ChannelWeb web = new ChannelWeb();
-        web.open(0, 1, 300, 100);
-        web.pay(1, 0, 40, 0);
-        web.pay(1, 0, 30, 1);
-        web.online(1, false);
-        web.publish(0, 0, 1);
-        web.block(1);
-        CHECK.channel(web, 0, 7, 340);
-        CHECK.channel(web, 0, 8, 0);
-        CHECK.party(web, 1, 5, 1);
-        web.online(1, true);
-        web.block(1);
-        CHECK.channel(web, 0, 7, 0);
-        CHECK.party(web, 1, 0, 900 + 60 + 340);
-        CHECK.party(web, 1, 5, 1);
-    }
-
-    private static void publisherOfOldStateIsPaidIfNobodyLooks() {
-        ChannelWeb web = new ChannelWeb();
-        web.open(0, 1, 300, 100);
-        web.pay(0, 1, 50, 0);
-        web.block(1);
-        web.online(1, false);
-        web.publish(0, 0, 0);
-        web.block(3);
-        CHECK.party(web, 0, 0, 1000);
-        web.online(1, true);
-        web.block(1);
-        CHECK.party(web, 1, 0, 1000);
-    }
-
-    private static void guardPunishes() {
-        ChannelWeb web = new ChannelWeb();
-        web.open(0, 1, 300, 119);
-        web.terms(0, 1, 0, 2);
-        web.pay(1, 0, 10, 0);
-        web.block(1);
-        web.online(0, false);
-        web.publish(1, 0, 0);
-        web.block(1);
-        CHECK.party(web, 0, 0, 1000 + 119 - 11);
-        CHECK.party(web, 2, 0, 1011);
-        CHECK.party(web, 1, 0, 881);
-        CHECK.channel(web, 0, 7, 0);
-        web.block(5);
-        CHECK.party(web, 2, 0, 1011);
-    }
-
-    private static void guardPerChannel() {
-        ChannelWeb web = new ChannelWeb();
-        web.open(0, 1, 100, 19);
-        web.open(3, 0, 29, 100);
-        web.open(0, 4, 100, 50);
-        web.open(0, 5, 50, 9);
-        web.terms(0, 1, 0, 2);
-        web.pay(1, 0, 5, 0);
-        web.pay(3, 0, 5, 1);
-        web.pay(4, 0, 5, 2);
-        web.pay(0, 5, 5, 3);
-        web.block(1);
-        web.online(0, false);
-        web.publish(1, 0, 1);
-        web.publish(3, 1, 0);
-        web.publish(4, 2, 2);
-        web.publish(0, 3, 0);
-        web.block(1);
-        // 19 with an output of 5, and 29: fees 1 and 2; the latest state and its own old one: none.
-        CHECK.party(web, 2, 0, 1003);
-        CHECK.party(web, 0, 0, 650 + 100 + 19 - 1 + 100 + 29 - 2 + 105);
-        CHECK.channel(web, 0, 8, 0);
-        CHECK.channel(web, 2, 7, 45);
-        CHECK.party(web, 5, 0, 991 + 9 + 50);
-    }
-
-    private static void guardsThatDoNothing() {
-        ChannelWeb web = new ChannelWeb();
-        web.open(0, 1, 300, 100);
-        web.terms(0, 1, 0, 2);
-        web.pay(1, 0, 10, 0);
-        web.block(1);
-        web.online(0, false);
-        web.online(2, false);
-        web.publish(1, 0, 0);
-        web.block(1);
-        CHECK.channel(web, 0, 7, 100);
-        web.online(0, true);
-        web.online(2, true);
-        web.block(1);
-        CHECK.party(web, 0, 0, 1100);
-        CHECK.party(web, 2, 0, 1000);
-        web = new ChannelWeb();
-        web.open(0, 5, 300, 100);
-        web.terms(0, 1, 0, 2);
-        web.pay(5, 0, 10, 0);
-        web.block(1);
-        web.online(0, false);
-        web.terms(0, 1, 0, -1);
-        web.publish(5, 0, 0);
-        web.block(2);
-        CHECK.channel(web, 0, 7, 100);
-        web.block(1);
-        CHECK.party(web, 5, 0, 1000);
-    }
-
-    private static void guardWhoCheated() {
-        ChannelWeb web = new ChannelWeb();
-        web.open(0, 1, 300, 100);
-        web.terms(0, 1, 0, 1);
-        web.pay(1, 0, 10, 0);
-        web.block(1);
-        web.online(0, false);
-        web.publish(1, 0, 0);
-        web.block(1);
-        CHECK.party(web, 0, 0, 1090);
-        CHECK.party(web, 1, 0, 910);
+        DOC.says("Promise 10", "false, and nothing changes, if it is not so", """
+            publish(0, 0, 0) = false, unchanged
+            open(0, 1, 300, 100) = 0
+            open(1, 2, 300, 100) = 1
+            open(3, 4, 10, 10) = 2
+            pay(0, 1, 5, 0) = 5
+            publish(0|1, 0, -1|2|11|12|MIN|MAX) = false, unchanged
+            publish(2|3|4|5, 0, 0|1) = false, unchanged
+            publish(-1|6|MIN|MAX, 0, 0) = false, unchanged
+            publish(0|1|3, -1|3|7|8|MIN|MAX, 0) = false, unchanged
+            publish(1, 1, 1) = false, unchanged
+            publish(1, 1, 0) = true
+            publish(1|2, 1, 0|-1|1) = false, unchanged
+            close(2) = true
+            publish(3|4, 2, 0|-1) = false, unchanged
+            publish(1, 0, 1) = true
+            publish(0|1, 0, 0|1) = false, unchanged
+            block(5) = 5
+            publish(0|1, 0, 0|1) = false, unchanged
+            """);
     }
 }

@@ -77,6 +77,8 @@ final class Model {
     final List<Channel> channels = new ArrayList<>();
     int height = 0;
     int used = 0;
+    int lastRouteLength = 0;
+    boolean lastRenewed = false;
     private List<Hop> best;
 
     Model() {
@@ -84,6 +86,28 @@ final class Model {
             parties[p] = new Party();
             parties[p].number = p;
         }
+    }
+
+    int answer(Call call) {
+        int[] a = call.args();
+        return switch (call.name()) {
+            case "online" -> Call.bit(online(a[0], a[1] == 1));
+            case "terms" -> Call.bit(terms(a[0], a[1], a[2], a[3]));
+            case "open" -> open(a[0], a[1], a[2], a[3]);
+            case "pay" -> pay(a[0], a[1], a[2], a[3]);
+            case "route" -> route(a[0], a[1], a[2], a[3]);
+            case "most" -> most(a[0], a[1]);
+            case "close" -> Call.bit(close(a[0]));
+            case "renew" -> Call.bit(renew(a[0], a[1], a[2]));
+            case "publish" -> Call.bit(publish(a[0], a[1], a[2]));
+            case "block" -> block(a[0]);
+            case "party" -> party(a[0], a[1]);
+            case "channel" -> channel(a[0], a[1]);
+            case "state" -> state(a[0], a[1], a[2]);
+            case "lock" -> lock(a[0], a[1], a[2], a[3]);
+            case "height" -> height;
+            default -> throw new IllegalArgumentException("there is no call " + call);
+        };
     }
 
     private static boolean in(int x, int low, int high) {
@@ -178,6 +202,7 @@ final class Model {
     }
 
     int pay(int p, int q, int v, int secret) {
+        lastRouteLength = 0;
         if (!payable(p, q, v) || !in(secret, 0, 15) || (used & 1 << secret) != 0) {
             return -2;
         }
@@ -196,6 +221,7 @@ final class Model {
         }
         used |= 1 << secret;
         parties[q].learn(secret);
+        lastRouteLength = row.size();
         return row.get(0).amount();
     }
 
@@ -238,6 +264,7 @@ final class Model {
     }
 
     boolean renew(int c, int x, int y) {
+        lastRenewed = false;
         if (!quiet(c) || !in(x, -6000, 6000) || !in(y, -6000, 6000)) {
             return false;
         }
@@ -251,6 +278,7 @@ final class Model {
         it.sides[1].coins -= y;
         it.states.clear();
         it.states.add(new State(new int[] {newX, newY}, new ArrayList<>()));
+        lastRenewed = true;
         return true;
     }
 
