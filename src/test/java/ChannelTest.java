@@ -5,6 +5,7 @@ public final class ChannelTest {
 
     public static void main(String[] args) {
         channels();
+        lastChannel();
         states();
         partsOfLocks();
         ready();
@@ -21,6 +22,56 @@ public final class ChannelTest {
         state();
         lock();
         DOC.end();
+    }
+
+    /** The last channel goes through all that a channel can: the last state, three outputs, each way that they can go. */
+    private static void lastChannel() {
+        String sevenBefore = "";
+        for (int c = 0; c < 7; c++) {
+            sevenBefore += "open(4, 5, 1, 1) = " + c + "\n";
+        }
+        String threeLocks = sevenBefore + "open(0, 1, 300, 300) = 7\n" + Sentences.settled(0, 1, 4) + """
+            pay(0, 1, 40, 4) = 40
+            pay(1, 0, 50, 5) = 50
+            pay(0, 1, 60, 6) = 60
+            state(7, 11, *) = 160 290 3
+            lock(7, 11, 2, *) = 0 60 6 7
+            """;
+        DOC.says("Terms", "CHANNELS 0..7", threeLocks + """
+            publish(0, 7, 11) = true
+            channel(7, *) = 1 0 1 11 11 0 4 160 3
+            lock(7, -1, 0, *) = 0 40 4 7
+            lock(7, -1, 1, *) = 1 50 5 7
+            lock(7, -1, 2, *) = 0 60 6 7
+            block(1) = 5
+            channel(7, *) = 1 0 1 11 11 0 4 210 0
+            party(1, 0) = 1090
+            block(2) = 7
+            party(0, 0) = 910
+            """, threeLocks + """
+            publish(0, 7, 11) = true
+            online(1, false) = true
+            block(3) = 7
+            channel(7, *) = 1 0 1 11 11 0 4 0 0
+            party(0, 0) = 1010
+            party(1, 0) = 990
+            """, threeLocks + """
+            publish(1, 7, 10) = true
+            channel(7, *) = 1 0 1 11 10 1 4 290 2
+            block(1) = 5
+            channel(7, *) = 1 0 1 11 10 1 4 0 0
+            party(0, 0) = 1300
+            party(1, 0) = 700
+            """, threeLocks + """
+            terms(0, 1, 0, 2) = true
+            online(0, false) = true
+            publish(1, 7, 10) = true
+            block(1) = 5
+            channel(7, *) = 1 0 1 11 10 1 4 0 0
+            party(0, 0) = 1262
+            party(1, 0) = 700
+            party(2, 0) = 1038
+            """);
     }
 
     private static void channels() {

@@ -6,8 +6,11 @@ import java.lang.reflect.Modifier;
 import java.nio.file.Files;
 import java.nio.file.Path;
 import java.util.Arrays;
+import java.util.Map;
 import java.util.Set;
+import java.util.TreeMap;
 import java.util.TreeSet;
+import java.util.regex.Matcher;
 import java.util.regex.Pattern;
 
 /** The public face of the document, and the rules of LANGUAGE.md that a test can look at. */
@@ -24,6 +27,7 @@ public final class FaceTest {
         methods();
         fields();
         words();
+        calls();
         CHECK.end();
     }
 
@@ -76,8 +80,58 @@ public final class FaceTest {
         CHECK.due("at most forty fields", ofObject <= 40, true);
     }
 
+    private static String code() throws IOException {
+        return Files.readString(Path.of("src/main/java/ChannelWeb.java")).replaceAll("//[^\n]*", "");
+    }
+
+    /** The bodies of the methods, by their names. */
+    private static Map<String, String> bodies() throws IOException {
+        Map<String, String> bodies = new TreeMap<>();
+        Matcher method = Pattern.compile("(?ms)^    (?:public|private) [a-z ]*?(\\w+)\\([^)]*\\) \\{$(.*?)^    \\}$").matcher(code());
+        while (method.find()) {
+            bodies.put(method.group(1), method.group(2));
+        }
+        return bodies;
+    }
+
+    private static void calls() throws IOException {
+        Map<String, String> bodies = bodies();
+        CHECK.due("the methods and the constructor", bodies.size(), ChannelWeb.class.getDeclaredMethods().length + 1);
+        Pattern call = Pattern.compile("\\b(" + String.join("|", bodies.keySet()) + ")\\(");
+        for (String name : bodies.keySet()) {
+            String body = bodies.get(name);
+            CHECK.due(name + " is of at most sixty lines", body.lines().count() <= 60, true);
+            CHECK.due(name + " calls at most six deep", depth(name, bodies, call, 0) <= 6, true);
+            Matcher one = call.matcher(body);
+            while (one.find()) {
+                CHECK.due("a call stands in the arguments of " + one.group(1) + " in " + name,
+                    call.matcher(arguments(body, one.end())).find(), false);
+            }
+        }
+    }
+
+    /** How deep calls go from a method on; a method that calls itself through others goes deeper than all methods together. */
+    private static int depth(String name, Map<String, String> bodies, Pattern call, int above) {
+        int deepest = 0;
+        Matcher one = call.matcher(bodies.get(name));
+        while (one.find() && above < bodies.size()) {
+            deepest = Math.max(deepest, depth(one.group(1), bodies, call, above + 1));
+        }
+        return deepest + 1;
+    }
+
+    private static String arguments(String body, int from) {
+        int open = 1;
+        int to = from;
+        while (open > 0) {
+            open += body.charAt(to) == '(' ? 1 : body.charAt(to) == ')' ? -1 : 0;
+            to++;
+        }
+        return body.substring(from, to);
+    }
+
     private static void words() throws IOException {
-        String code = Files.readString(Path.of("src/main/java/ChannelWeb.java")).replaceAll("//[^\n]*", "");
+        String code = code();
         String[] ruledOut = {"import", "package", "throw", "throws", "try", "catch", "synchronized", "assert", "instanceof",
             "null", "float", "double", "String", "Math", "Integer", "System", "Arrays", "Object", "enum", "record",
             "interface", "protected", "->", "::", "\"", "@"};
