@@ -26,8 +26,10 @@ public final class FaceTest {
         constants();
         methods();
         fields();
+        types();
         words();
         calls();
+        loops();
         CHECK.end();
     }
 
@@ -80,6 +82,21 @@ public final class FaceTest {
         CHECK.due("at most forty fields", ofObject <= 40, true);
     }
 
+    private static void types() {
+        Set<Class<?>> numbers = Set.of(int.class, long.class, short.class, byte.class, char.class, boolean.class);
+        for (Field f : ChannelWeb.class.getDeclaredFields()) {
+            Class<?> type = f.getType().isArray() ? f.getType().getComponentType() : f.getType();
+            CHECK.due(f.getName() + " is of numbers", numbers.contains(type), true);
+            CHECK.due(f.getName() + " stays the array that it is",
+                !f.getType().isArray() || Modifier.isFinal(f.getModifiers()), true);
+        }
+        for (Method m : ChannelWeb.class.getDeclaredMethods()) {
+            CHECK.due(m.getName() + " answers a number or nothing",
+                m.getReturnType() == void.class || numbers.contains(m.getReturnType()), true);
+            CHECK.due(m.getName() + " takes numbers", numbers.containsAll(Arrays.asList(m.getParameterTypes())), true);
+        }
+    }
+
     private static String code() throws IOException {
         return Files.readString(Path.of("src/main/java/ChannelWeb.java")).replaceAll("//[^\n]*", "");
     }
@@ -107,6 +124,18 @@ public final class FaceTest {
                 CHECK.due("a call stands in the arguments of " + one.group(1) + " in " + name,
                     call.matcher(arguments(body, one.end())).find(), false);
             }
+        }
+    }
+
+    /** Loops are told by a counter against a bound, in one way each. */
+    private static void loops() throws IOException {
+        CHECK.due("loops without a counter", Pattern.compile("\\b(while|do)\\b").matcher(code()).find(), false);
+        Matcher loop = Pattern.compile("for \\((.*)\\) \\{\n").matcher(code());
+        Pattern up = Pattern.compile("int (\\w+) = [^;]+; \\1 <=? [^;]+; \\1\\+\\+");
+        Pattern down = Pattern.compile("int (\\w+) = [^;]+; \\1 >= 0; \\1--");
+        while (loop.find()) {
+            String head = loop.group(1);
+            CHECK.due("the loop " + head + " counts", up.matcher(head).matches() || down.matcher(head).matches(), true);
         }
     }
 
@@ -139,6 +168,15 @@ public final class FaceTest {
             String quoted = Character.isLetter(word.charAt(0)) ? "\\b" + word + "\\b" : Pattern.quote(word);
             CHECK.due("the code has " + word, Pattern.compile(quoted).matcher(code).find(), false);
         }
+        CHECK.due("the code reaches into another class or object by a dot", code.contains("."), false);
+        Set<String> called = new TreeSet<>();
+        Matcher name = Pattern.compile("(\\w+) ?\\(").matcher(code);
+        while (name.find()) {
+            called.add(name.group(1));
+        }
+        called.removeAll(bodies().keySet());
+        called.removeAll(Set.of("if", "for", "switch", "return"));
+        CHECK.due("calls of others than the class's own methods: " + called, called.size(), 0);
         String methodsOnly = code.substring(code.indexOf("public ChannelWeb()"));
         CHECK.due("a method makes something new", Pattern.compile("\\bnew\\b").matcher(methodsOnly).find(), false);
     }

@@ -26,22 +26,30 @@ final class Sentences {
     private String where;
 
     Sentences(String test) {
-        check = new Check(test);
+        this(new Check(test));
+    }
+
+    Sentences(Check check) {
+        this.check = check;
     }
 
     void says(String section, String words, String... runs) {
         told++;
         check.due("'" + words + "' stands in " + section, stands(section, words), true);
         for (String run : runs) {
-            web = new ChannelWeb();
-            made = 0;
-            acts = new ArrayList<>();
-            where = section + ", '" + words + "': ";
-            for (String line : run.strip().split("\n")) {
-                hold(line.strip());
-            }
-            check.due(where + "a run within 512 calls", made <= View.MOST_CALLS, true);
+            holds(section + ", '" + words + "'", run);
         }
+    }
+
+    void holds(String source, String run) {
+        web = new ChannelWeb();
+        made = 0;
+        acts = new ArrayList<>();
+        where = source + ": ";
+        for (String line : run.strip().split("\n")) {
+            hold(line.strip());
+        }
+        check.due(where + "a run within 512 calls", made <= View.MOST_CALLS, true);
     }
 
     /** Lines of a run from height 0: so many payments of 10, with secrets 0, 1, .., each settled by a block: two states each. */
